@@ -267,7 +267,11 @@ public final class ClawBox {
         if (box.cellOf(thing) < 0) {
             return refuse(STATE);
         }
-        int length = fewestPulls(thing, n);
+        trial.copyFrom(box);
+        int length = 0;
+        for (int tried = 1; tried <= n && length == 0; tried++) {
+            length = leadsToWin(trial, thing, way, 0, tried) ? tried : 0;
+        }
         if (length == 0 || what >= length) {
             return refuse(NONE);
         }
@@ -308,7 +312,24 @@ public final class ClawBox {
         if (lack != 0) {
             return refuse(lack);
         }
-        int pair = changedPair(sheets[sheet]);
+        Row row = sheets[sheet];
+        trial.copyFrom(box);
+        int least = haulOf(trial, row);
+        int pair = -1;
+        for (int one = 0; one < box.things; one++) {
+            for (int other = one + 1; other < box.things; other++) {
+                if (box.cellOf(one) < 0 || box.cellOf(other) < 0) {
+                    continue;
+                }
+                trial.copyFrom(box);
+                trial.changePlaces(one, other);
+                int haul = haulOf(trial, row);
+                if (haul < least) {
+                    least = haul;
+                    pair = 100 * one + other;
+                }
+            }
+        }
         return pair < 0 ? refuse(NONE) : pair;
     }
 
@@ -599,17 +620,7 @@ public final class ClawBox {
 
     // ---- FEWEST, GAME, HAUL, CHANGED, SPRINGS, ODDS
 
-    /** The length of THE WAY, which stands in its row then; 0: n PULLS don't do. */
-    private int fewestPulls(int thing, int n) {
-        trial.copyFrom(box);
-        for (int length = 1; length <= n; length++) {
-            if (leadsToWin(trial, thing, way, 0, length)) {
-                return length;
-            }
-        }
-        return 0;
-    }
-
+    /** If the THING can be WON just by the last PULL of a row so long; THE WAY stands in its row then. */
     private static boolean leadsToWin(Box box, int thing, int[] way, int at, int length) {
         if (at < 0 || at >= length || length > way.length) {
             return false;
@@ -682,26 +693,6 @@ public final class ClawBox {
             }
         }
         return haul;
-    }
-
-    private int changedPair(Row row) {
-        trial.copyFrom(box);
-        int least = haulOf(trial, row);
-        int pair = -1;
-        for (int one = 0; one < box.things; one++) {
-            for (int other = one + 1; other < box.things; other++) {
-                if (box.cellOf(one) >= 0 && box.cellOf(other) >= 0) {
-                    trial.copyFrom(box);
-                    trial.changePlaces(one, other);
-                    int haul = haulOf(trial, row);
-                    if (haul < least) {
-                        least = haul;
-                        pair = 100 * one + other;
-                    }
-                }
-            }
-        }
-        return pair;
     }
 
     private static boolean fits(Row row, int spring, int weaker) {
@@ -1010,6 +1001,8 @@ public final class ClawBox {
         private final int[] ms = new int[MOST_THINGS];
         private final int[] worths = new int[MOST_THINGS];
         private final int[] cells = new int[MOST_THINGS];
+        /** How many lie under each THING that is in a CELL. */
+        private final int[] unders = new int[MOST_THINGS];
         private final int[] piles = new int[CELLS * MOST_IN_PILE];
         private final int[] highs = new int[CELLS];
         private int things;
@@ -1031,6 +1024,7 @@ public final class ClawBox {
             System.arraycopy(other.ms, 0, ms, 0, MOST_THINGS);
             System.arraycopy(other.worths, 0, worths, 0, MOST_THINGS);
             System.arraycopy(other.cells, 0, cells, 0, MOST_THINGS);
+            System.arraycopy(other.unders, 0, unders, 0, MOST_THINGS);
             System.arraycopy(other.piles, 0, piles, 0, CELLS * MOST_IN_PILE);
             System.arraycopy(other.highs, 0, highs, 0, CELLS);
             things = other.things;
@@ -1087,18 +1081,12 @@ public final class ClawBox {
         }
 
         int under(int thing) {
-            int cell = cellOf(thing);
-            for (int height = 0; height < highOf(cell); height++) {
-                if (thingAt(cell, height) == thing) {
-                    return height;
-                }
-            }
-            return -1;
+            return cellOf(thing) >= 0 ? unders[thing] : -1;
         }
 
         int on(int thing) {
-            int height = under(thing);
-            return height < 0 ? -1 : highOf(cellOf(thing)) - 1 - height;
+            int cell = cellOf(thing);
+            return cell >= 0 ? highOf(cell) - 1 - unders[thing] : -1;
         }
 
         int add(int kind, int m, int cell) {
@@ -1127,24 +1115,21 @@ public final class ClawBox {
 
         /** A THING that lies nowhere comes uppermost into a PILE that has room. */
         void lower(int thing, int cell) {
-            if (has(thing) && isCell(cell) && highs[cell] >= 0 && highs[cell] < MOST_IN_PILE) {
-                piles[MOST_IN_PILE * cell + highs[cell]] = thing;
+            int high = highOf(cell);
+            if (isCell(cell) && high < MOST_IN_PILE) {
                 highs[cell]++;
-                cells[thing] = cell;
+                place(thing, cell, high);
             }
         }
 
         /** A THING leaves its PILE to be WON or out, and those on it come down. */
         void take(int thing, int where) {
             int cell = cellOf(thing);
-            int height = under(thing);
-            if (!isCell(cell) || height < 0) {
+            if (cell < 0) {
                 return;
             }
-            int above = highs[cell] - 1 - height;
-            int place = MOST_IN_PILE * cell + height;
-            if (above > 0 && place + 1 + above <= piles.length) {
-                System.arraycopy(piles, place + 1, piles, place, above);
+            for (int height = under(thing); height < highOf(cell) - 1; height++) {
+                place(thingAt(cell, height + 1), cell, height);
             }
             highs[cell]--;
             cells[thing] = where;
@@ -1152,40 +1137,37 @@ public final class ClawBox {
 
         void changePlaces(int one, int other) {
             int cellOfOne = cellOf(one);
-            int cellOfOther = cellOf(other);
-            int heightOfOne = under(one);
-            int heightOfOther = under(other);
-            if (heightOfOne >= 0 && heightOfOther >= 0) {
-                place(other, cellOfOne, heightOfOne);
-                place(one, cellOfOther, heightOfOther);
-            }
+            int underOne = under(one);
+            place(one, cellOf(other), under(other));
+            place(other, cellOfOne, underOne);
         }
 
         private void place(int thing, int cell, int height) {
             if (has(thing) && isCell(cell) && height >= 0 && height < MOST_IN_PILE) {
                 piles[MOST_IN_PILE * cell + height] = thing;
                 cells[thing] = cell;
+                unders[thing] = height;
             }
         }
 
         int needs(int thing) {
             int m = mOf(thing);
             int plain = 20 + m;
+            int on = Math.max(0, on(thing));
             switch (kindOf(thing)) {
                 case BALL: return plain + 10;
                 case MELON: return plain + 10 + m;
                 case BEAR: return plain - 8;
-                case BLUE: return plain - 8 + 2 * Math.max(0, on(thing));
+                case BLUE: return plain - 8 + 2 * on;
                 case SLIPPERY: return 2 * plain;
-                case TOLD: return needsText.isThere() ? neededByText(thing) : plain;
+                case TOLD:
+                    if (needsText.isThere()) {
+                        int under = Math.max(0, under(thing));
+                        return within(needsText.value(m, on, under, cellOf(thing)), 1, 99);
+                    }
+                    return plain;
                 default: return plain;
             }
-        }
-
-        private int neededByText(int thing) {
-            int on = Math.max(0, on(thing));
-            int under = Math.max(0, under(thing));
-            return within(needsText.value(mOf(thing), on, under, cellOf(thing)), 1, 99);
         }
 
         int likes(int thing) {
