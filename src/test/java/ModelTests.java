@@ -138,6 +138,9 @@ public final class ModelTests {
             if (made.a().length > 0 && random.nextInt(12) == 0) {
                 made.a()[random.nextInt(made.a().length)] = odd();
             }
+            for (int i = random.nextInt(60); i < made.a().length; i++) {
+                made.a()[i] = odd();
+            }
             return made;
         }
 
