@@ -1275,25 +1275,20 @@ public final class ClawBox {
             70, 71, 0, 0};
 
         private final Row trace = new Row(MOST_TRACE);
-        private final Row begun = new Row(MOST_TRACE);
         private int kind;
         private int number;
         private int m;
         private boolean parted;
         private int answer;
 
-        /** False if it is PARTED: an ERROR leaves THE TRACE as it was. */
+        /** False if it is PARTED. THE TRACE tells of the latest VOICE even then: its BODIES did begin. */
         boolean begin(int itsKind, int itsNumber, int itsM, int voice, int x) {
             kind = itsKind;
             number = itsNumber;
             m = itsM;
             parted = false;
-            begun.clear();
-            int said = speak(itsKind, voice, x, 0);
-            if (!parted) {
-                answer = said;
-                trace.copyFrom(begun);
-            }
+            trace.clear();
+            answer = speak(itsKind, voice, x, 0);
             return !parted;
         }
 
@@ -1312,7 +1307,7 @@ public final class ClawBox {
                 return 0;
             }
             int body = bodyOf(owner, voice);
-            begun.add(body);
+            trace.add(body);
             return say(body, kindAbove(owner), x, depth + 1);
         }
 

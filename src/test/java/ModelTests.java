@@ -1077,14 +1077,13 @@ public final class ModelTests {
             };
             v.k = t;
             v.m = box.things.get(t).m;
-            int said = switch (voice) {
+            trace = v.trace;
+            return switch (voice) {
                 case 0 -> v.lies(x);
                 case 1 -> v.rolls(x);
                 case 2 -> v.falls(x);
                 default -> v.parts(x);
             };
-            trace = v.trace;
-            return said;
         }
 
         private int rest(String name, int a, int b, int d) {

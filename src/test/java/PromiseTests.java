@@ -1025,19 +1025,25 @@ public final class PromiseTests {
         x.set(1, 1, 0);
         says(x, 1, 3, MIN, MIN - 2, 21, 13, 11, 20, 10);
         x.set(1, 1, 1);
-        due(PARTED, x.voice(1, 3, 7));
-        due(5, x.count(10));
-        due(21, x.body(0));
+        // PARTED ends it there: rolls(1) of BODY 21 doesn't begin.
+        says(x, 1, 3, 7, PARTED, 21, 13);
         says(x, 6, 0, 7, 4, 70);
-        // An ERROR changes nothing: THE TRACE stays as it was.
-        due(PARTED, x.voice(1, 3, 7));
-        due(1, x.count(10));
-        due(70, x.body(0));
-        due(2, x.told(6));
+        x.set(4, 1, 4);
+        says(x, 4, 3, 7, PARTED, 21, 13);
+        x.set(0, 1, 0);
+        says(x, 0, 3, MIN, PARTED, 13);
+        x.set(0, 1, 9);
+        says(x, 0, 3, 18, 2, 13);
+        x.set(6, 1, 6);
+        says(x, 6, 3, 0, PARTED, 13);
+        due(4, x.told(6));
+        says(x, 6, 0, 7, 4, 70);
+        // A voice() that is BEYOND begins no BODY: THE TRACE stays as it was.
         due(BEYOND, x.voice(7, 0, 0));
         due(BEYOND, x.voice(-1, 0, 0));
         due(BEYOND, x.voice(0, 4, 0));
         due(BEYOND, x.voice(0, -1, 0));
+        due(1, x.count(10));
         due(70, x.body(0));
         int told = x.told(1);
         due(BEYOND, x.voice(0, 0, BEYOND));
