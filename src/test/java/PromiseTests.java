@@ -1036,7 +1036,13 @@ public final class PromiseTests {
         says(x, 0, 3, 18, 2, 13);
         x.set(6, 1, 6);
         says(x, 6, 3, 0, PARTED, 13);
-        due(4, x.told(6));
+        x.set(2, 1, 2);
+        says(x, 2, 3, 7, PARTED, 13);
+        x.set(3, 1, 3);
+        says(x, 3, 3, 7, PARTED, 13);
+        x.set(5, 1, 5);
+        says(x, 5, 3, 7, PARTED, 13);
+        due(7, x.told(6));
         says(x, 6, 0, 7, 4, 70);
         // A voice() that is BEYOND begins no BODY: THE TRACE stays as it was.
         due(BEYOND, x.voice(7, 0, 0));
