@@ -255,6 +255,13 @@ public final class EdgesOfTexts extends Edge {
     }
 
     private static void quotients() {
+        sentence("Quotients are cut toward 0.");
+        for (int above = -9; above <= 9; above++) {
+            for (int below = -9; below <= 9; below++) {
+                String by = "(" + (above + 9) + "-9)/(" + (below + 9) + "-9)";
+                due(below == 0 ? 0 : above / below, value(by));
+            }
+        }
         sentence("/ cut, % the rest that it leaves, both by 0 are 0;");
         due(3, value("7/2"));
         due(-3, value("(0-7)/2"));
@@ -375,12 +382,17 @@ public final class EdgesOfTexts extends Edge {
             for (int i = 0; i < 5; i++) {
                 x.lay(i == under ? 60 : 0, 15);
             }
-            text(x, NEEDS, "10*o+u+1");
-            due(10 * (4 - under) + under + 1, x.thingIs(under, 6));
+            text(x, NEEDS, "10*o+u+40");
+            due(10 * (4 - under) + under + 40, x.thingIs(under, 6));
             x.out(under);
+            due(40, x.thingIs(under, 6));
+            text(x, NEEDS, "40-10*u-o");
+            due(40, x.thingIs(under, 6));
+            x.back(under, 15);
             due(1, x.thingIs(under, 6));
-            text(x, NEEDS, "10*u+o+1");
-            due(1, x.thingIs(under, 6));
+            x.spring(0, 99);
+            due(under, x.pull(15));
+            due(40, x.thingIs(under, 6));
         }
         ClawBox x = new ClawBox();
         text(x, NEEDS, "c+5");
@@ -459,6 +471,17 @@ public final class EdgesOfTexts extends Edge {
         due(1, text(x, LIKES, "m"));
         due(1, x.thingIs(0, 7));
         due(31, x.thingIs(0, 6));
+
+        // However many were told ahead, sound ones and others, the last one counts, whole.
+        x = new ClawBox();
+        x.lay(0, 1);
+        for (int i = 0; i < 10; i++) {
+            due(1, text(x, i % 2, times("1+", 29) + "1" + i));
+            due(-70, text(x, i % 2, times("1+", 30)));
+        }
+        due(29 + 19, x.thingIs(0, 7));
+        x.set(0, 0, 6);
+        due(29 + 18, x.thingIs(0, 6));
 
         sentence("-10 less the FAULT (no ERROR; the one ahead stays; THE TAPE is empty, too).");
         for (int use = 0; use < 2; use++) {

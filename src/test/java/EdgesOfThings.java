@@ -423,6 +423,16 @@ public final class EdgesOfThings extends Edge {
     }
 
     private static void as() {
+        sentence("0 THING, 1 BALL under THING, 2 BEAR under THING, 3 SLIPPERY under THING, 4 MELON under BALL, 5 BLUE under BEAR, 6 TOLD under THING;");
+        int[] above = {-1, 0, 0, 0, 1, 2, 0};
+        for (int kind = 0; kind < 7; kind++) {
+            ClawBox x = new ClawBox();
+            x.lay(10 * kind, 1);
+            for (int as = 0; as < 7; as++) {
+                boolean is = as == kind || as == 0 || as == above[kind];
+                due(is ? 10 : KIND, x.as(0, as));
+            }
+        }
         sentence("A THING as one of a KIND: WORTH. BEYOND. KIND: it is not of that KIND, nor of one under it.");
         for (int thing : NO_THINGS) {
             refused(BEYOND, Edge::rich, x -> x.as(thing, 0));

@@ -14,7 +14,9 @@ public final class EdgesOfVoices extends Edge {
         ofMelon();
         ofBlue();
         ofTold();
+        found();
         wraps();
+        cut();
         parted();
         trace();
         errors();
@@ -130,6 +132,26 @@ public final class EdgesOfVoices extends Edge {
         says(box(6, 0, 9), PARTS, 1000, 111, 13);
     }
 
+    /** Each KIND's row: the BODY that a VOICE begins with, as lies(..) finds it. */
+    private static void found() {
+        sentence("lies(..) is the BODY of its KIND, or of the next KIND above that has one; super.lies(..) that from the KIND above the BODY's on.");
+        int[][] first = {{10, 11, 12, 13}, {20, 11, 12, 21}, {10, 30, 12, 13}, {10, 11, 40, 13}, {50, 11, 51, 21},
+            {10, 60, 12, 13}, {70, 71, 12, 13}};
+        for (int kind = 0; kind < 7; kind++) {
+            for (int voice = 0; voice < 4; voice++) {
+                ClawBox x = box(kind, 1, 9);
+                x.voice(1, voice, 7);
+                due(first[kind][voice], x.body(0));
+                // It is of the KIND that it is now.
+                x.set(1, 0, (kind + 1) % 7);
+                x.voice(1, voice, 7);
+                due(first[(kind + 1) % 7][voice], x.body(0));
+            }
+        }
+        // rolls(1) of a MELON's part is its own: lies(1) is (1 + 1 - 3) * 3.
+        says(box(4, 1, 9), PARTS, 8, 1 - 6, 21, 13, 11, 50, 20, 10);
+    }
+
     private static void wraps() {
         sentence("VOICES of a THING, with a number x (ints that wrap);");
         says(box(0, 1, 0), LIES, MAX, MIN, 10);
@@ -153,6 +175,18 @@ public final class EdgesOfVoices extends Edge {
         }
         for (int k = 1; k <= 6; k++) {
             due(0, x.told(k));
+        }
+    }
+
+    private static void cut() {
+        sentence("Quotients are cut toward 0.");
+        for (int with = -20; with <= 20; with++) {
+            for (int k = 0; k < 16; k += 3) {
+                for (int m = 0; m <= 9; m++) {
+                    due(m == k ? PARTED : with / (m - k), box(0, k, m).voice(k, PARTS, with));
+                }
+            }
+            due(with / 2 * 2, box(3, 0, 0).voice(0, FALLS, with));
         }
     }
 

@@ -10,6 +10,7 @@ public final class EdgesOfWouldBe extends Edge {
         game();
         gameFirst();
         gameTurns();
+        gameCells();
         gameErrors();
         haul();
         haulErrors();
@@ -250,6 +251,42 @@ public final class EdgesOfWouldBe extends Edge {
         isGame(x, 3, 20, 9);
     }
 
+    private static void gameCells() {
+        sentence("each at any CELL but THE CHUTE;");
+        // Each of the three takes the best that is left, wherever it lies.
+        for (int one = 1; one < 16; one++) {
+            for (int two = 1; two < 16; two++) {
+                int three = one % 15 + 1 == two ? two % 15 + 1 : one % 15 + 1;
+                if (one == two || three == one) {
+                    continue;
+                }
+                ClawBox x = steady(99);
+                x.lay(0, one);
+                x.lay(0, two);
+                x.lay(0, three);
+                x.set(0, 2, 90);
+                x.set(1, 2, 50);
+                x.set(2, 2, 7);
+                isGame(x, 1, 90, one);
+                isGame(x, 2, 40, one);
+                isGame(x, 3, 47, one);
+            }
+        }
+        // Only in one CELL there is nothing, and nobody likes what lies in the others.
+        for (int cell = 1; cell < 16; cell++) {
+            ClawBox x = steady(99);
+            for (int each = 1; each < 16; each++) {
+                if (each != cell) {
+                    x.lay(0, each);
+                }
+            }
+            text(x, 1, "0-w");
+            isGame(x, 1, 0, cell);
+            isGame(x, 2, 0, cell);
+            isGame(x, 3, 0, cell);
+        }
+    }
+
     private static void gameErrors() {
         sentence("GAME of n: what 0 VALUE, 1 FIRST. BEYOND.");
         for (int n : new int[] {0, 4, -1, MIN, MAX}) {
@@ -392,6 +429,18 @@ public final class EdgesOfWouldBe extends Edge {
         due(NONE, x.changed(0));
         due(1, x.back(1, 4));
         due(1, x.changed(0));
+        // Nor does the less one of the two.
+        for (int won = 0; won < 2; won++) {
+            x = steady(99);
+            x.lay(0, 9);
+            x.lay(0, 6);
+            x.set(0, 2, 1);
+            row(x, 0, 6);
+            due(1, x.changed(0));
+            due(won == 0 ? 9 : 0, won == 0 ? x.out(0) : x.pull(9));
+            due(10, x.haul(0));
+            due(NONE, x.changed(0));
+        }
     }
 
     private static void changedLeast() {
@@ -414,6 +463,7 @@ public final class EdgesOfWouldBe extends Edge {
         due(NONE, x.changed(0));
         x.set(0, 2, 21);
         due(1, x.changed(0));
+        sentence("that by which the HAUL of the ROW is least, if it is less than as they lie");
         // Several pairs come to the same least: (0, 2), (0, 3), (1, 2), (1, 3).
         x = steady(99);
         for (int i = 0; i < 4; i++) {
