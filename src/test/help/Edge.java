@@ -23,7 +23,12 @@ class Edge {
     static final int MAX = Integer.MAX_VALUE;
 
     /** What a box is read by; each part is read from a box of its own, as reading may change it. */
-    private static final int PARTS = 31;
+    static final int PARTS = 31;
+    /** The part that has what told() tells, those from which on the IMAGE and then the SHEETS are read, and the counts. */
+    static final int TOLD = 0;
+    static final int IMAGES = 5;
+    static final int SHEETS_ON = 10;
+    static final int COUNTS = 15;
 
     private static final String DOC = doc();
     private static final Set<String> SENTENCES = new HashSet<>();
@@ -110,7 +115,7 @@ class Edge {
         asked++;
         for (int part = 0; part < PARTS; part++) {
             List<Long> dues = read(one.box(), part);
-            if (part == 0 && k > 0) {
+            if (part == TOLD && k > 0) {
                 dues.set(k - 1, dues.get(k - 1) + 1);
             }
             List<Long> got = read(other.box(), part);
@@ -126,27 +131,27 @@ class Edge {
     static List<Long> read(ClawBox x, int part) {
         List<Long> seen = new ArrayList<>();
         switch (part) {
-            case 0 -> readTold(x, seen);
+            case TOLD -> readTold(x, seen);
             case 1 -> readBodies(x, seen);
             case 2, 3 -> readTape(x, part - 2, seen);
-            case 4 -> seen.add((long) x.image());
-            case 5 -> {
+            case 4 -> seen.add((long) x.draws(60));
+            case IMAGES -> seen.add((long) x.image());
+            case 6 -> {
                 seen.add((long) x.restore());
                 readCounts(x, seen);
             }
-            case 6, 7 -> {
+            case 7, 8 -> {
                 seen.add((long) x.restore());
-                readTape(x, part - 6, seen);
+                readTape(x, part - 7, seen);
             }
-            case 8 -> {
+            case 9 -> {
                 seen.add((long) x.restore());
-                seen.add((long) x.check(6));
+                seen.add((long) x.check(2));
             }
-            case 9 -> seen.add((long) x.draws(60));
-            case 10, 11, 12, 13 -> readSheet(x, part - 10, seen);
+            case 10, 11, 12, 13 -> readSheet(x, part - SHEETS_ON, seen);
             case 14 -> seen.add(x.untell(0) + 2L * x.untell(1));
-            case 15 -> readCounts(x, seen);
-            default -> seen.add((long) x.check(part - 15));
+            case COUNTS -> readCounts(x, seen);
+            default -> seen.add((long) x.check(part - COUNTS));
         }
         return seen;
     }

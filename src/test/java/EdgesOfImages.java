@@ -1,3 +1,5 @@
+import java.util.List;
+
 /** Edges of promises 32 to 37, of the ERRORS and of the 512 calls: images, what waits, what is counted and told. */
 public final class EdgesOfImages extends Edge {
 
@@ -128,14 +130,13 @@ public final class EdgesOfImages extends Edge {
         due(3, x.image());
 
         // image() itself changes nothing but the IMAGE.
-        ClawBox kept = rich();
-        kept.image();
-        for (int part : new int[] {0, 1, 2, 3, 9, 10, 11, 12, 13, 14, 15, 16, 30}) {
-            ClawBox one = rich();
-            one.image();
-            due(1, read(rich(), part).equals(read(one, part)) ? 1 : 0);
+        for (int part = 0; part < PARTS; part++) {
+            List<Long> got = read(after(Edge::rich, box -> box.image()).box(), part);
+            if (part < IMAGES || part >= SHEETS_ON) {
+                due(1, read(rich(), part).equals(got) ? 1 : 0);
+            }
         }
-        due(2, kept.count(2));
+        due(2, after(Edge::rich, box -> box.image()).box().restore());
     }
 
     private static void restore() {
@@ -215,20 +216,29 @@ public final class EdgesOfImages extends Edge {
         due(0, x.check(4));
 
         sentence("Nothing else changes.");
-        alike(untold(2), after(Edge::rich, box -> box.check(2)), 0);
-        alike(untold(15), after(Edge::rich, box -> box.check(5)), 0);
-        due(0, after(Edge::rich, box -> box.check(2)).box().count(9));
+        for (int cell : new int[] {1, 2, 5, 6, 15}) {
+            onlyWaitsNoMore(cell, 0);
+        }
         looks(ClawBox::new, box -> box.check(1));
-        looks(() -> {
-            ClawBox box = rich();
-            box.check(3);
-            return box;
-        }, box -> box.check(5));
+        looks(after(Edge::rich, box -> box.check(3)), box -> box.check(5));
     }
 
-    /** As rich(), but that nothing waits any more. */
-    private static Setup untold(int cell) {
-        return after(Edge::rich, box -> box.check(cell));
+    /** By check() nothing changes but that no number waits any more, and what told() tells (ERROR LOW - k; 0: none). */
+    private static void onlyWaitsNoMore(int cell, int k) {
+        Setup checked = after(Edge::rich, box -> box.check(cell));
+        for (int part = 0; part < PARTS; part++) {
+            List<Long> dues = read(rich(), part);
+            if (part == TOLD && k > 0) {
+                dues.set(k - 1, dues.get(k - 1) + 1);
+            }
+            if (part == COUNTS) {
+                due(3, dues.set(9, 0L));
+            }
+            if (part > COUNTS) {
+                dues.set(0, 0L);
+            }
+            due(1, dues.equals(read(checked.box(), part)) ? 1 : 0);
+        }
     }
 
     /** A pile in CELL 6 that does 2, 1, 1, 3, 3, 3, 0: a held one, two let fall, then CELL 5 is full until it is too weak. */
@@ -249,8 +259,7 @@ public final class EdgesOfImages extends Edge {
         sentence("BEYOND (none wait then, too): also THE CHUTE.");
         for (int cell : new int[] {0, -1, 16, MIN, MAX}) {
             due(BEYOND, rich().check(cell));
-            due(0, after(Edge::rich, x -> x.check(cell)).box().count(9));
-            alike(untold(2), after(Edge::rich, x -> x.check(cell)), 1);
+            onlyWaitsNoMore(cell, 1);
             refused(BEYOND, ClawBox::new, x -> x.check(cell));
             ClawBox x = rich();
             x.check(cell);
