@@ -1125,7 +1125,7 @@ public final class ClawBox {
         /** A THING leaves its PILE to be WON or out, and those on it come down. */
         void take(int thing, int where) {
             int cell = cellOf(thing);
-            if (cell < 0) {
+            if (!has(thing) || !isCell(cell)) {
                 return;
             }
             for (int height = under(thing); height < highOf(cell) - 1; height++) {

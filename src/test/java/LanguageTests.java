@@ -27,6 +27,7 @@ public final class LanguageTests {
     public static void main(String[] args) throws IOException {
         String source = Files.readString(Path.of("src/main/java/ClawBox.java"), StandardCharsets.ISO_8859_1);
         face();
+        headings(source);
         words(source);
         sizes(source);
         classes();
@@ -60,6 +61,26 @@ public final class LanguageTests {
         for (Field f : ClawBox.class.getDeclaredFields()) {
             rule(Modifier.isPrivate(f.getModifiers()), f + " is private");
         }
+    }
+
+    /** The calls stand below what the document says ahead of them, in its order. */
+    private static void headings(String source) throws IOException {
+        String doc = Files.readString(Path.of("../shared/DOC.md"));
+        Matcher ahead = Pattern.compile("Ahead of the calls (.*) the interface says: (---- .*)\\.\n").matcher(doc);
+        int from = 0;
+        int calls = 0;
+        while (ahead.find()) {
+            int at = source.indexOf("    // " + ahead.group(2) + "\n", from);
+            rule(at > from, "'" + ahead.group(2) + "' stands behind what is ahead of it");
+            from = Math.max(from, at);
+            for (String call : ahead.group(1).split(", ")) {
+                at = source.indexOf(" " + call.replace("`", "") + "(", from);
+                rule(at > from && source.lastIndexOf("    public ", at) > from, call + " stands below " + ahead.group(2));
+                from = Math.max(from, at);
+                calls++;
+            }
+        }
+        rule(calls == 36, "each call has a heading");
     }
 
     private static void words(String source) {
